@@ -273,7 +273,8 @@ public final class Writeback {
         int from = spotOf(file, 0);
         checkPower();
         int end = from + BLOCKS;
-        int start = Math.min(end, Math.max(from, startOn(from)));
+        // The place of the arm is below all spots of flash, so that there this goes from the file's first one up.
+        int start = Math.min(end, Math.max(from, devices[0].arm));
         int ahead = flushSpots(start, end);
         if (ahead < 0) {
             return NONE;
@@ -524,7 +525,7 @@ public final class Writeback {
 
     /** A block that the transaction has written already does not count anew. */
     private boolean isOneTooMany(int at) {
-        return work.going && work.written >= WRITTEN && (at < 0 || !pool.frames[at].ofWork);
+        return work.written >= WRITTEN && (at < 0 || !pool.frames[at].ofWork);
     }
 
     // ---- places
@@ -546,11 +547,6 @@ public final class Writeback {
         Device device = devices[spot / PLACES];
         bills[tenant] += device.reach(spot % PLACES);
         device.put(spot % PLACES, value);
-    }
-
-    /** The spot from which a sync of a file that begins at a spot goes up: flash has no arm. */
-    private int startOn(int home) {
-        return home < PLACES ? devices[0].arm : home;
     }
 
     // ---- power
@@ -895,7 +891,6 @@ public final class Writeback {
         boolean fresh;
         int oldValue;
         boolean oldDirty;
-        int oldSince;
 
         boolean isFree() {
             return spot < 0;
@@ -913,13 +908,15 @@ public final class Writeback {
             ofWork = false;
         }
 
-        /** Keeps what an abort brings back, as the transaction writes the page for the first time. */
+        /**
+         * Keeps what an abort brings back, as the transaction writes the page for the first time. Since when it is
+         * dirty needs no keeping: if it is so by now, the transaction leaves that as it is.
+         */
         void remember(boolean isFresh) {
             ofWork = true;
             fresh = isFresh;
             oldValue = value;
             oldDirty = dirty;
-            oldSince = since;
         }
 
         void goBack() {
@@ -930,7 +927,6 @@ public final class Writeback {
             ofWork = false;
             value = oldValue;
             dirty = oldDirty;
-            since = oldSince;
         }
     }
 

@@ -1,13 +1,5 @@
-import java.util.NoSuchElementException;
-
 /** Promises 8 to 14: read, write, pin, unpin, frameOf, isDirty, onPlace, with policies, waits and reading ahead. */
-public final class AccessTest {
-    private static final Class<IndexOutOfBoundsException> BOUNDS = IndexOutOfBoundsException.class;
-    private static final Class<IllegalArgumentException> ARGUMENT = IllegalArgumentException.class;
-    private static final Class<IllegalStateException> STATE = IllegalStateException.class;
-    private static final Class<UnsupportedOperationException> UNSUPPORTED = UnsupportedOperationException.class;
-    private static final Class<NoSuchElementException> NONE = NoSuchElementException.class;
-
+public final class AccessTest extends HouseTests {
     private AccessTest() {
     }
 
@@ -32,15 +24,6 @@ public final class AccessTest {
         check.end();
     }
 
-    private static Writeback house(int frames, int... devices) {
-        Writeback house = new Writeback();
-        for (int device : devices) {
-            house.addFile(device);
-        }
-        house.setFrames(frames);
-        return house;
-    }
-
     private static void reads(Writeback house, int file, int... blocks) {
         for (int block : blocks) {
             house.read(file, block);
@@ -56,7 +39,7 @@ public final class AccessTest {
     }
 
     private static void readCosts(Check check) {
-        Writeback house = house(8, 0, 1, 0);
+        Writeback house = houseOf(8, 0, 1, 0);
         check.same("8 a new block", house.read(0, 5), 0);
         check.same("8 cost on the platter", house.getBill(0), 6);
         check.same("8 arm", house.getArm(), 5);
@@ -73,7 +56,7 @@ public final class AccessTest {
     }
 
     private static void readRefusals(Check check) {
-        Writeback house = house(2, 0);
+        Writeback house = houseOf(2, 0);
         check.refused("8 file -1", BOUNDS, house, () -> house.read(-1, 0));
         check.refused("8 file 1", BOUNDS, house, () -> house.read(1, 0));
         check.refused("8 block -1", BOUNDS, house, () -> house.read(0, -1));
@@ -105,7 +88,7 @@ public final class AccessTest {
     }
 
     private static void readByAge(Check check) {
-        Writeback house = house(3, 0);
+        Writeback house = houseOf(3, 0);
         reads(house, 0, 0, 4, 8, 0, 12);
         check.same("8 l: the page used longest ago", frames(house, 0, 0, 4, 8, 12), "0 -1 2 1");
         house.pin(0, 8);
@@ -115,7 +98,7 @@ public final class AccessTest {
     }
 
     private static void readByComing(Check check) {
-        Writeback house = house(3, 0);
+        Writeback house = houseOf(3, 0);
         house.setPolicy('f');
         reads(house, 0, 0, 4, 8, 0, 12);
         check.same("8 f: the page that came longest ago", frames(house, 0, 0, 4, 8, 12), "-1 1 2 0");
@@ -125,7 +108,7 @@ public final class AccessTest {
     }
 
     private static void readByHand(Check check) {
-        Writeback house = house(3, 0);
+        Writeback house = houseOf(3, 0);
         house.setPolicy('c');
         reads(house, 0, 0, 4, 8, 12);
         check.same("8 c: all lose, the first goes", frames(house, 0, 0, 4, 8, 12), "-1 1 2 0");
@@ -142,7 +125,7 @@ public final class AccessTest {
     }
 
     private static void readFlushesAndFails(Check check) {
-        Writeback house = house(1, 0);
+        Writeback house = houseOf(1, 0);
         house.write(0, 5, 50);
         check.same("8 flushes ahead of evicting", house.read(0, 2), 0);
         check.same("8 flushed", house.onPlace(0, 5), 50);
@@ -160,7 +143,7 @@ public final class AccessTest {
     }
 
     private static void readAhead(Check check) {
-        Writeback house = house(8, 0, 0);
+        Writeback house = houseOf(8, 0, 0);
         house.setWindow(3);
         house.read(0, 0);
         check.same("8 ahead: none read last", house.countPages(), 1);
@@ -180,7 +163,7 @@ public final class AccessTest {
         house.read(0, 7);
         check.same("8 ahead: a hit was read last", house.countAhead(), 5);
         check.same("8 ahead: useful", house.countUseful(), 2);
-        Writeback other = house(8, 0);
+        Writeback other = houseOf(8, 0);
         other.setWindow(1);
         other.write(0, 0, 1);
         other.read(0, 1);
@@ -192,12 +175,12 @@ public final class AccessTest {
     }
 
     private static void readAheadAtTheEnd(Check check) {
-        Writeback house = house(8, 0, 0);
+        Writeback house = houseOf(8, 0, 0);
         house.setWindow(4);
         reads(house, 0, 12, 13);
         check.same("8 ahead: up to 15", house.countAhead(), 2);
         check.same("8 ahead: not of the next file", house.frameOf(1, 0), -1);
-        Writeback other = house(8, 0);
+        Writeback other = houseOf(8, 0);
         other.setWindow(4);
         other.damage(0, 4, 9);
         reads(other, 0, 1, 2);
@@ -206,7 +189,7 @@ public final class AccessTest {
     }
 
     private static void readAheadTakesCleanPages(Check check) {
-        Writeback house = house(4, 0);
+        Writeback house = houseOf(4, 0);
         house.setWindow(2);
         house.write(0, 10, 1);
         reads(house, 0, 12, 0, 1);
@@ -221,12 +204,12 @@ public final class AccessTest {
         house.read(0, 7);
         check.same("8 ahead: not the page that was read", frames(house, 0, 7, 8), "3 -1");
         check.same("8 ahead: no more came", house.countAhead(), 2);
-        Writeback other = house(2, 0);
+        Writeback other = houseOf(2, 0);
         other.setWindow(3);
         reads(other, 0, 0, 1);
         check.same("8 ahead: what came ahead can go", frames(other, 0, 0, 1, 2, 3, 4), "-1 1 -1 -1 0");
         check.same("8 ahead: three came", other.countAhead(), 3);
-        Writeback third = house(2, 0);
+        Writeback third = houseOf(2, 0);
         third.setWindow(1);
         third.write(0, 9, 9);
         reads(third, 0, 0, 1);
@@ -238,7 +221,7 @@ public final class AccessTest {
     }
 
     private static void readAheadByHand(Check check) {
-        Writeback house = house(4, 0);
+        Writeback house = houseOf(4, 0);
         house.setPolicy('c');
         house.setWindow(1);
         house.write(0, 10, 1);
@@ -258,7 +241,7 @@ public final class AccessTest {
     }
 
     private static void write(Check check) {
-        Writeback house = house(8, 0, 1);
+        Writeback house = houseOf(8, 0, 1);
         check.same("9 waits", house.write(0, 15, 9999), 0);
         check.same("9 needs no reading", house.getBill(0), 0);
         check.same("9 dirty", house.isDirty(0, 15), true);
@@ -276,7 +259,7 @@ public final class AccessTest {
     }
 
     private static void writeRefusals(Check check) {
-        Writeback house = house(1, 0);
+        Writeback house = houseOf(1, 0);
         check.refused("9 file 1", BOUNDS, house, () -> house.write(1, 0, 0));
         check.refused("9 file -1", BOUNDS, house, () -> house.write(-1, 0, 0));
         check.refused("9 block 16", BOUNDS, house, () -> house.write(0, 16, 10000));
@@ -290,7 +273,7 @@ public final class AccessTest {
         house.fail();
         check.refused("9 no power", UNSUPPORTED, house, () -> house.write(0, 1, 1));
         check.refused("9 a wrong value ahead of no power", ARGUMENT, house, () -> house.write(0, 1, -1));
-        Writeback other = house(16, 0);
+        Writeback other = houseOf(16, 0);
         other.setLimit(16);
         other.begin();
         for (int block = 0; block < 6; block++) {
@@ -305,7 +288,7 @@ public final class AccessTest {
     }
 
     private static void writeWaits(Check check) {
-        Writeback house = house(8, 0);
+        Writeback house = houseOf(8, 0);
         house.setLimit(2);
         house.write(0, 3, 1);
         house.write(0, 1, 2);
@@ -336,7 +319,7 @@ public final class AccessTest {
     }
 
     private static void writeWaitsFail(Check check) {
-        Writeback house = house(8, 0);
+        Writeback house = houseOf(8, 0);
         house.setLimit(1);
         house.write(0, 3, 1);
         house.failAt(1);
@@ -353,34 +336,34 @@ public final class AccessTest {
     }
 
     private static void pins(Check check) {
-        Writeback house = house(2, 0, 0);
+        Writeback house = houseOf(2, 0, 0);
         check.refused("10 file 2", BOUNDS, house, () -> house.pin(2, 0));
         check.refused("10 block 16", BOUNDS, house, () -> house.pin(0, 16));
-        check.refused("10 in no frame", NONE, house, () -> house.pin(0, 1));
+        check.refused("10 in no frame", NO_ELEMENT, house, () -> house.pin(0, 1));
         check.refused("11 file -1", BOUNDS, house, () -> house.unpin(-1, 0));
         check.refused("11 block -1", BOUNDS, house, () -> house.unpin(0, -1));
-        check.refused("11 in no frame", NONE, house, () -> house.unpin(0, 1));
+        check.refused("11 in no frame", NO_ELEMENT, house, () -> house.unpin(0, 1));
         house.read(0, 1);
-        check.refused("11 not pinned", NONE, house, () -> house.unpin(0, 1));
+        check.refused("11 not pinned", NO_ELEMENT, house, () -> house.unpin(0, 1));
         check.same("10 once", house.pin(0, 1), 1);
         check.same("10 once more", house.pin(0, 1), 2);
         check.same("11 once less", house.unpin(0, 1), 1);
         reads(house, 1, 0, 5, 9);
         check.same("10 it stays", house.frameOf(0, 1), 0);
         check.same("11 not pinned any more", house.unpin(0, 1), 0);
-        check.refused("11 not again", NONE, house, () -> house.unpin(0, 1));
+        check.refused("11 not again", NO_ELEMENT, house, () -> house.unpin(0, 1));
         house.read(1, 0);
         check.same("11 it can be evicted", house.frameOf(0, 1), -1);
         house.pin(1, 0);
         house.fail();
-        check.refused("10 without power nothing is in a frame", NONE, house, () -> house.pin(1, 0));
+        check.refused("10 without power nothing is in a frame", NO_ELEMENT, house, () -> house.pin(1, 0));
         house.powerOn();
         house.read(1, 0);
-        check.refused("11 pins are lost with the power", NONE, house, () -> house.unpin(1, 0));
+        check.refused("11 pins are lost with the power", NO_ELEMENT, house, () -> house.unpin(1, 0));
     }
 
     private static void looks(Check check) {
-        Writeback house = house(2, 0, 1);
+        Writeback house = houseOf(2, 0, 1);
         check.refused("12 file 2", BOUNDS, house, () -> house.frameOf(2, 0));
         check.refused("12 block 16", BOUNDS, house, () -> house.frameOf(0, 16));
         check.refused("13 file -1", BOUNDS, house, () -> house.isDirty(-1, 0));

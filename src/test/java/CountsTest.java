@@ -1,8 +1,5 @@
 /** Promises 30 to 46: counts, bills, the trace and figures. */
-public final class CountsTest {
-    private static final Class<IllegalArgumentException> ARGUMENT = IllegalArgumentException.class;
-    private static final Class<ArithmeticException> ARITHMETIC = ArithmeticException.class;
-
+public final class CountsTest extends HouseTests {
     private CountsTest() {
     }
 
@@ -25,14 +22,6 @@ public final class CountsTest {
         checksum(check);
         sound(check);
         check.end();
-    }
-
-    private static Writeback house(int... devices) {
-        Writeback house = new Writeback();
-        for (int device : devices) {
-            house.addFile(device);
-        }
-        return house;
     }
 
     private static void countsOfPages(Check check) {
@@ -79,7 +68,7 @@ public final class CountsTest {
         check.same("34 two", house.countMisses(), 2);
         house.pin(0, 0);
         house.frameOf(0, 0);
-        check.throwing("34 a refused one", IndexOutOfBoundsException.class, () -> house.read(0, 16));
+        check.throwing("34 a refused one", BOUNDS, () -> house.read(0, 16));
         house.setWindow(2);
         house.read(0, 2);
         check.same("33 no access, no hit", house.countHits(), 2);
@@ -129,6 +118,20 @@ public final class CountsTest {
         check.same("36 two", other.countAhead(), 2);
         other.read(0, 3);
         check.same("37 one of them", other.countUseful(), 1);
+        Writeback third = house(0);
+        third.setWindow(1);
+        third.setFrames(1);
+        third.setFrames(2);
+        third.read(0, 0);
+        third.read(0, 1);
+        check.same("36 one in the frame 0", third.frameOf(0, 2), 0);
+        third.pin(0, 1);
+        third.read(0, 9);
+        third.read(0, 9);
+        check.same("37 not another page in its frame", third.countUseful(), 0);
+        third.write(0, 8, 1);
+        third.write(0, 8, 1);
+        check.same("37 nor one that is written", third.countUseful(), 0);
     }
 
     private static void wear(Check check) {

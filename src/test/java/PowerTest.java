@@ -1,10 +1,5 @@
 /** Promises 22 to 29: failAt, fail, powerOn, hasPower, damage, scrub, keepImage, layBack. */
-public final class PowerTest {
-    private static final Class<IndexOutOfBoundsException> BOUNDS = IndexOutOfBoundsException.class;
-    private static final Class<IllegalArgumentException> ARGUMENT = IllegalArgumentException.class;
-    private static final Class<IllegalStateException> STATE = IllegalStateException.class;
-    private static final Class<UnsupportedOperationException> UNSUPPORTED = UnsupportedOperationException.class;
-
+public final class PowerTest extends HouseTests {
     private PowerTest() {
     }
 
@@ -22,14 +17,6 @@ public final class PowerTest {
         layBack(check);
         layBackDamage(check);
         check.end();
-    }
-
-    private static Writeback house(int... devices) {
-        Writeback house = new Writeback();
-        for (int device : devices) {
-            house.addFile(device);
-        }
-        return house;
     }
 
     private static void failAt(Check check) {
@@ -244,7 +231,7 @@ public final class PowerTest {
         check.same("29 no write of a place", house.failAt(0), 1);
         check.same("29 laid back again", house.layBack(0, 0), 0);
         check.same("29 read anew", house.read(0, 1), 11);
-        check.throwing("29 the pin is gone", java.util.NoSuchElementException.class, () -> house.unpin(0, 1));
+        check.throwing("29 the pin is gone", NO_ELEMENT, () -> house.unpin(0, 1));
         house.fail();
         house.damage(0, 9, 9);
         check.same("29 without power", house.layBack(0, 0), 1);

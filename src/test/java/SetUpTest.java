@@ -1,10 +1,5 @@
 /** Promises 1 to 7: a new object, files, frames, policy, limit, window, tenant. */
-public final class SetUpTest {
-    private static final Class<IndexOutOfBoundsException> BOUNDS = IndexOutOfBoundsException.class;
-    private static final Class<IllegalArgumentException> ARGUMENT = IllegalArgumentException.class;
-    private static final Class<IllegalStateException> STATE = IllegalStateException.class;
-    private static final Class<UnsupportedOperationException> UNSUPPORTED = UnsupportedOperationException.class;
-
+public final class SetUpTest extends HouseTests {
     private SetUpTest() {
     }
 
@@ -16,19 +11,12 @@ public final class SetUpTest {
         setFramesEvicts(check);
         setFramesAndPower(check);
         setFramesAndHand(check);
+        setFramesAndHandBehind(check);
         setPolicy(check);
         setLimit(check);
         setWindow(check);
         setTenant(check);
         check.end();
-    }
-
-    private static Writeback house(int... devices) {
-        Writeback house = new Writeback();
-        for (int device : devices) {
-            house.addFile(device);
-        }
-        return house;
     }
 
     private static void newObject(Check check) {
@@ -129,23 +117,47 @@ public final class SetUpTest {
         check.same("3 as many frames as before", house.setFrames(8), 8);
     }
 
-    private static void setFramesAndHand(Check check) {
-        Writeback house = house(0);
+    /** Four frames, the hand at the last one, whose page alone was not used since it passed. */
+    private static Writeback withHandAtThree() {
+        Writeback house = houseOf(4, 0);
         house.setPolicy('c');
-        house.setFrames(4);
         for (int block = 0; block < 4; block++) {
             house.read(0, block);
         }
         house.pin(0, 0);
         house.pin(0, 1);
         house.read(0, 4);
-        check.same("3 the hand took frame 2", house.frameOf(0, 4), 2);
         house.unpin(0, 0);
         house.unpin(0, 1);
+        return house;
+    }
+
+    private static void setFramesAndHand(Check check) {
+        Writeback house = withHandAtThree();
+        check.same("3 the hand took frame 2", house.frameOf(0, 4), 2);
         house.setFrames(3);
-        // The hand was at 3 and goes to 0; only the page in frame 2 has been used since it passed, 0 and 1 too.
+        // The hand was at 3 and goes to 0; all three pages were used since it passed them.
         house.read(0, 5);
         check.same("3 a hand behind them goes to 0", house.frameOf(0, 5), 0);
+        house.pin(0, 5);
+        house.pin(0, 1);
+        house.read(0, 6);
+        check.same("3 the hand is behind the last frame, at 0", house.frameOf(0, 6), 2);
+        house.unpin(0, 5);
+        house.setFrames(4);
+        house.read(0, 7);
+        house.read(0, 8);
+        // At 0 the page loses that it was used, 1 is pinned, 2 and 3 lose it, then 0 goes.
+        check.same("3 more frames do not move it", house.frameOf(0, 8), 0);
+    }
+
+    private static void setFramesAndHandBehind(Check check) {
+        Writeback house = withHandAtThree();
+        house.setFrames(3);
+        house.setFrames(4);
+        house.read(0, 5);
+        house.read(0, 6);
+        check.same("3 it went to 0 for good", house.frameOf(0, 6), 0);
     }
 
     private static void setPolicy(Check check) {

@@ -1,9 +1,5 @@
 /** Promises 15 to 21: begin, commit, abort, countWritten, checkpoint, sync, countLog. */
-public final class TransactionTest {
-    private static final Class<IndexOutOfBoundsException> BOUNDS = IndexOutOfBoundsException.class;
-    private static final Class<IllegalStateException> STATE = IllegalStateException.class;
-    private static final Class<UnsupportedOperationException> UNSUPPORTED = UnsupportedOperationException.class;
-
+public final class TransactionTest extends HouseTests {
     private TransactionTest() {
     }
 
@@ -24,17 +20,8 @@ public final class TransactionTest {
         check.end();
     }
 
-    private static Writeback house(int frames, int... devices) {
-        Writeback house = new Writeback();
-        for (int device : devices) {
-            house.addFile(device);
-        }
-        house.setFrames(frames);
-        return house;
-    }
-
     private static void begin(Check check) {
-        Writeback house = house(8, 0);
+        Writeback house = houseOf(8, 0);
         check.same("15 the first", house.begin(), 1);
         check.refused("15 one goes on", UNSUPPORTED, house, house::begin);
         house.abort();
@@ -48,7 +35,7 @@ public final class TransactionTest {
     }
 
     private static void commit(Check check) {
-        Writeback house = house(8, 0, 1);
+        Writeback house = houseOf(8, 0, 1);
         check.refused("16 no transaction", UNSUPPORTED, house, house::commit);
         house.setTenant(2);
         house.begin();
@@ -75,7 +62,7 @@ public final class TransactionTest {
     }
 
     private static void commitFails(Check check) {
-        Writeback house = house(8, 0);
+        Writeback house = houseOf(8, 0);
         house.begin();
         house.write(0, 1, 1);
         house.commit();
@@ -96,7 +83,7 @@ public final class TransactionTest {
     }
 
     private static Writeback withTenInLog() {
-        Writeback house = house(16, 0, 0);
+        Writeback house = houseOf(16, 0, 0);
         house.setLimit(16);
         for (int turn = 0; turn < 2; turn++) {
             house.begin();
@@ -146,7 +133,7 @@ public final class TransactionTest {
     }
 
     private static void commitBesidePlainWrites(Check check) {
-        Writeback house = house(8, 0);
+        Writeback house = houseOf(8, 0);
         house.begin();
         house.write(0, 1, 5);
         house.commit();
@@ -159,7 +146,7 @@ public final class TransactionTest {
     }
 
     private static void abort(Check check) {
-        Writeback house = house(8, 0);
+        Writeback house = houseOf(8, 0);
         check.refused("17 no transaction", UNSUPPORTED, house, house::abort);
         house.read(0, 1);
         house.write(0, 2, 7);
@@ -189,7 +176,7 @@ public final class TransactionTest {
     }
 
     private static void abortKeepsTimes(Check check) {
-        Writeback house = house(8, 0);
+        Writeback house = houseOf(8, 0);
         house.setLimit(2);
         house.write(0, 1, 1);
         house.write(0, 2, 2);
@@ -199,7 +186,7 @@ public final class TransactionTest {
         house.write(0, 3, 3);
         check.same("17 dirty since as before", house.onPlace(0, 1), 1);
         check.same("17 the other one stays", house.isDirty(0, 2), true);
-        Writeback logged = house(8, 0);
+        Writeback logged = houseOf(8, 0);
         logged.begin();
         logged.write(0, 1, 4);
         logged.commit();
@@ -213,7 +200,7 @@ public final class TransactionTest {
     }
 
     private static void abortFreesFrames(Check check) {
-        Writeback house = house(3, 0);
+        Writeback house = houseOf(3, 0);
         house.read(0, 0);
         house.begin();
         house.write(0, 1, 1);
@@ -235,7 +222,7 @@ public final class TransactionTest {
     }
 
     private static void countWritten(Check check) {
-        Writeback house = house(8, 0);
+        Writeback house = houseOf(8, 0);
         check.same("18 without one", house.countWritten(), 0);
         house.write(0, 0, 1);
         check.same("18 plain writes", house.countWritten(), 0);
@@ -250,7 +237,7 @@ public final class TransactionTest {
     }
 
     private static void checkpoint(Check check) {
-        Writeback house = house(8, 1, 0, 0);
+        Writeback house = houseOf(8, 1, 0, 0);
         check.same("19 nothing", house.checkpoint(), 0);
         house.write(0, 1, 1);
         house.write(2, 4, 2);
@@ -273,7 +260,7 @@ public final class TransactionTest {
     }
 
     private static void sync(Check check) {
-        Writeback house = house(16, 0, 0, 1);
+        Writeback house = houseOf(16, 0, 0, 1);
         house.setLimit(16);
         check.refused("20 file 3", BOUNDS, house, () -> house.sync(3));
         check.refused("20 file -1", BOUNDS, house, () -> house.sync(-1));
@@ -318,7 +305,7 @@ public final class TransactionTest {
     }
 
     private static void syncFails(Check check) {
-        Writeback house = house(16, 0, 1);
+        Writeback house = houseOf(16, 0, 1);
         house.setLimit(16);
         house.read(0, 5);
         house.write(0, 7, 7);
@@ -342,7 +329,7 @@ public final class TransactionTest {
     }
 
     private static void countLog(Check check) {
-        Writeback house = house(2, 0, 1);
+        Writeback house = houseOf(2, 0, 1);
         check.same("21 empty", house.countLog(), 0);
         house.write(0, 0, 1);
         check.same("21 plain writes are not in it", house.countLog(), 0);

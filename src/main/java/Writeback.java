@@ -140,17 +140,16 @@ public final class Writeback {
             throw new IllegalStateException("no page can be evicted, or the block is damaged");
         }
         countAccess(file, block, at);
+        boolean goesOn = files.lastRead[file] + 1 == block;
+        files.lastRead[file] = block;
         if (at >= 0) {
             pool.use(at);
-            files.lastRead[file] = block;
             return pool.frames[at].value;
         }
         at = takeFrame();
         if (at < 0) {
             return NONE;
         }
-        boolean goesOn = files.lastRead[file] + 1 == block;
-        files.lastRead[file] = block;
         bring(at, spot);
         if (goesOn) {
             readAhead(spot, block, at);

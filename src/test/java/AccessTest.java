@@ -10,14 +10,19 @@ public final class AccessTest extends HouseTests {
         readByAge(check);
         readByComing(check);
         readByHand(check);
+        readByHandPassesOver(check);
+        readByHandFails(check);
         readFlushesAndFails(check);
         readAhead(check);
         readAheadAtTheEnd(check);
         readAheadTakesCleanPages(check);
         readAheadByHand(check);
+        readAheadLeavesOthersUsed(check);
+        readAheadBehindPowerFailure(check);
         write(check);
         writeRefusals(check);
         writeWaits(check);
+        writeWaitsInTransaction(check);
         writeWaitsFail(check);
         pins(check);
         looks(check);
@@ -122,6 +127,31 @@ public final class AccessTest extends HouseTests {
         house.unpin(0, 4);
         house.read(0, 14);
         check.same("8 c: the pinned one had lost nothing more", frames(house, 0, 4, 6, 10, 14), "-1 2 0 1");
+    }
+
+    private static void readByHandPassesOver(Check check) {
+        Writeback house = houseOf(3, 0);
+        house.setPolicy('c');
+        reads(house, 0, 0, 4, 8, 12, 4);
+        house.pin(0, 4);
+        house.read(0, 6);
+        house.unpin(0, 4);
+        // The hand went over the pinned 4 in the frame 1 and is at 0; all three are used.
+        house.read(0, 10);
+        check.same("8 c: passed over, it stays used", frames(house, 0, 12, 4, 6, 10), "-1 1 2 0");
+    }
+
+    private static void readByHandFails(Check check) {
+        Writeback house = houseOf(3, 0);
+        house.setPolicy('c');
+        for (int block : new int[] {0, 4, 8}) {
+            house.write(0, block, 5);
+        }
+        house.failAt(1);
+        check.same("8 c: the power fails", house.read(0, 12), -1);
+        house.powerOn();
+        reads(house, 0, 0, 4, 8, 12);
+        check.same("8 c: the hand was behind the frame 0 by then", frames(house, 0, 0, 4, 8, 12), "0 -1 2 1");
     }
 
     private static void readFlushesAndFails(Check check) {
@@ -240,6 +270,88 @@ public final class AccessTest extends HouseTests {
         check.same("8 ahead by hand: dirty ones are passed over", frames(house, 0, 6, 7, 14, 1), "3 0 2 -1");
     }
 
+    private static void readAheadLeavesOthersUsed(Check check) {
+        Writeback house = houseOf(3, 0);
+        house.setPolicy('c');
+        house.setWindow(1);
+        house.write(0, 10, 1);
+        reads(house, 0, 0, 1, 1);
+        check.same("8 ahead by hand: in the frame of the clean one", frames(house, 0, 10, 1, 2), "0 2 1");
+        house.read(0, 14);
+        // The hand at 2: 1, 10 and 2 lose, then 1 goes.
+        check.same("8 ahead by hand: the dirty one stayed used", frames(house, 0, 10, 1, 2, 14), "0 -1 1 2");
+    }
+
+    /** Reads the block 3 and then, with the power failing in the eviction for it, the block 9. */
+    private static Writeback failedRead(Check check, int window) {
+        Writeback house = houseOf(1, 0, 0);
+        house.setWindow(window);
+        house.read(0, 3);
+        house.write(1, 0, 5);
+        house.failAt(1);
+        check.same("8 ahead: the power fails in a read", house.read(0, 9), -1);
+        house.powerOn();
+        house.setFrames(8);
+        return house;
+    }
+
+    private static void readAheadBehindPowerFailure(Check check) {
+        Writeback house = failedRead(check, 2);
+        check.same("8 ahead: none came as the power failed", house.countAhead(), 0);
+        house.read(0, 4);
+        check.same("8 ahead: the one ahead of the failed read is not the last", house.countAhead(), 0);
+        Writeback other = failedRead(check, 2);
+        other.read(0, 10);
+        check.same("8 ahead: the failed read was the last", frames(other, 0, 10, 11, 12, 13), "0 1 2 -1");
+        Writeback third = failedRead(check, 2);
+        third.read(1, 10);
+        check.same("8 ahead: it was one of its own file", third.countAhead(), 0);
+        third.read(1, 1);
+        third.read(0, 10);
+        check.same("8 ahead: reads of another file do not matter", third.countAhead(), 2);
+        Writeback fourth = failedRead(check, 2);
+        fourth.read(0, 9);
+        fourth.read(0, 10);
+        check.same("8 ahead: read again, only the next one counts", fourth.countAhead(), 2);
+        Writeback first = houseOf(1, 0, 0);
+        first.setWindow(1);
+        first.write(1, 0, 5);
+        first.failAt(1);
+        first.read(0, 0);
+        first.powerOn();
+        first.setFrames(2);
+        first.read(0, 1);
+        check.same("8 ahead: the first read of a file failed", frames(first, 0, 1, 2), "0 1");
+        Writeback written = houseOf(1, 0, 0);
+        written.setWindow(1);
+        written.read(0, 3);
+        written.write(1, 0, 5);
+        written.failAt(1);
+        written.write(0, 9, 5);
+        written.powerOn();
+        written.setFrames(8);
+        written.read(0, 10);
+        check.same("8 ahead: a write in which the power fails is no read", written.countAhead(), 0);
+        written.read(0, 4);
+        written.read(0, 5);
+        check.same("8 ahead: reads go on behind it", frames(written, 0, 5, 6), "2 3");
+        Writeback thrown = houseOf(2, 0);
+        thrown.setWindow(1);
+        thrown.read(0, 3);
+        thrown.damage(0, 9, 1);
+        check.refused("8 ahead: a damaged block", STATE, thrown, () -> thrown.read(0, 9));
+        thrown.damage(0, 9, 0);
+        thrown.read(0, 10);
+        check.same("8 ahead: what threw was not read", thrown.countAhead(), 0);
+        Writeback after = houseOf(8, 0);
+        after.setWindow(1);
+        after.read(0, 3);
+        after.damage(0, 9, 1);
+        check.refused("8 ahead: a damaged block again", STATE, after, () -> after.read(0, 9));
+        after.read(0, 4);
+        check.same("8 ahead: the one ahead of what threw stays the last", after.countAhead(), 1);
+    }
+
     private static void write(Check check) {
         Writeback house = houseOf(8, 0, 1);
         check.same("9 waits", house.write(0, 15, 9999), 0);
@@ -316,6 +428,18 @@ public final class AccessTest extends HouseTests {
         house.pin(0, 5);
         check.same("9 a pinned one is flushed", house.write(0, 7, 1), 1);
         check.same("9 it was", house.onPlace(0, 5), 8);
+    }
+
+    private static void writeWaitsInTransaction(Check check) {
+        Writeback house = houseOf(8, 0);
+        house.write(0, 1, 1);
+        house.write(0, 2, 2);
+        house.setLimit(1);
+        check.same("9 not by the limit being set", house.countDirty(), 2);
+        house.begin();
+        check.same("9 a write of the transaction waits, too", house.write(0, 3, 3), 1);
+        check.same("9 for the one that is dirty longest", house.onPlace(0, 1), 1);
+        check.same("9 only plain ones are counted", house.write(0, 4, 4), 0);
     }
 
     private static void writeWaitsFail(Check check) {

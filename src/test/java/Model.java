@@ -320,14 +320,13 @@ final class Model {
         stateIf(there == null && (freeFrame() == null && evictable().isEmpty() || damaged(place)));
         return powered(() -> {
             access(file, block, there);
+            boolean next = lastRead.containsKey(file) && lastRead.get(file) == block - 1;
+            lastRead.put(file, block);
             if (there != null) {
                 use(there);
-                lastRead.put(file, block);
                 return there.value;
             }
             int at = room();
-            boolean next = lastRead.containsKey(file) && lastRead.get(file) == block - 1;
-            lastRead.put(file, block);
             pay(place);
             come(at, place, values[place]);
             for (int i = 1; next && i <= window && block + i <= 15; i++) {

@@ -99,6 +99,14 @@ public final class PowerTest extends HouseTests {
         check.same("24 writing anew makes a damaged one right", house.scrub(0), 0);
         house.fail();
         check.same("24 nothing to write", house.powerOn(), 0);
+        house.begin();
+        house.write(0, 1, 6);
+        house.write(0, 2, 6);
+        house.commit();
+        house.failAt(3);
+        house.fail();
+        check.same("24 two by coming back", house.powerOn(), 2);
+        check.same("24 they are not of the further writes", house.failAt(0), 3);
     }
 
     private static void hasPower(Check check) {

@@ -115,6 +115,15 @@ public final class SetUpTest extends HouseTests {
         check.same("3 no pages", house.countPages(), 0);
         house.powerOn();
         check.same("3 as many frames as before", house.setFrames(8), 8);
+        Writeback other = withHandAtThree();
+        other.write(0, 3, 8);
+        other.failAt(1);
+        check.same("3 the power fails behind the hand's frame", other.setFrames(2), -1);
+        other.powerOn();
+        for (int block = 0; block < 5; block++) {
+            other.read(0, 3 * block);
+        }
+        check.same("3 the hand as before", other.frameOf(0, 12), 3);
     }
 
     /** Four frames, the hand at the last one, whose page alone was not used since it passed. */

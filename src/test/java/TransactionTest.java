@@ -10,6 +10,7 @@ public final class TransactionTest extends HouseTests {
         commitFails(check);
         commitFillsLog(check);
         commitBesidePlainWrites(check);
+        commitKeepsTimes(check);
         abort(check);
         abortKeepsTimes(check);
         abortFreesFrames(check);
@@ -143,6 +144,21 @@ public final class TransactionTest extends HouseTests {
         house.powerOn();
         check.same("16 the committed value comes back", house.onPlace(0, 1), 5);
         check.same("16 and is read", house.read(0, 1), 5);
+    }
+
+    private static void commitKeepsTimes(Check check) {
+        Writeback house = houseOf(8, 0);
+        house.read(0, 2);
+        house.read(0, 1);
+        house.begin();
+        house.write(0, 1, 5);
+        house.write(0, 2, 6);
+        house.write(0, 1, 7);
+        house.commit();
+        house.setLimit(1);
+        check.same("16 two are plain dirty ones", house.write(0, 2, 8), 1);
+        check.same("16 dirty since its first write", house.onPlace(0, 1), 7);
+        check.same("16 the other one stays", house.isDirty(0, 2), true);
     }
 
     private static void abort(Check check) {

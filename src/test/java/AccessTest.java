@@ -29,20 +29,6 @@ public final class AccessTest extends HouseTests {
         check.end();
     }
 
-    private static void reads(Writeback house, int file, int... blocks) {
-        for (int block : blocks) {
-            house.read(file, block);
-        }
-    }
-
-    private static String frames(Writeback house, int file, int... blocks) {
-        StringBuilder text = new StringBuilder();
-        for (int block : blocks) {
-            text.append(house.frameOf(file, block)).append(' ');
-        }
-        return text.toString().trim();
-    }
-
     private static void readCosts(Check check) {
         Writeback house = houseOf(8, 0, 1, 0);
         check.same("8 a new block", house.read(0, 5), 0);

@@ -23,4 +23,18 @@ abstract class HouseTests {
         house.setFrames(frames);
         return house;
     }
+
+    static void reads(Writeback house, int file, int... blocks) {
+        for (int block : blocks) {
+            house.read(file, block);
+        }
+    }
+
+    static String frames(Writeback house, int file, int... blocks) {
+        StringBuilder text = new StringBuilder();
+        for (int block : blocks) {
+            text.append(house.frameOf(file, block)).append(' ');
+        }
+        return text.toString().trim();
+    }
 }
